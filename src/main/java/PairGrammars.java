@@ -436,16 +436,6 @@ public final class PairGrammars {
             return true;
         }
 
-        int timesOf(int symbol) {
-            int times = 0;
-            for (int position = 0; position < length; position++) {
-                if (at(position) == symbol) {
-                    times++;
-                }
-            }
-            return times;
-        }
-
         private boolean hasPair(int position, int first, int second) {
             return has(position + 1) && at(position) == first && at(position + 1) == second;
         }
@@ -474,7 +464,13 @@ public final class PairGrammars {
         }
 
         boolean canUnroll(int symbol, Row filling) {
-            return length + timesOf(symbol) * (filling.length - 1) <= symbols.length;
+            int longer = length;
+            for (int position = 0; position < length; position++) {
+                if (at(position) == symbol) {
+                    longer += filling.length - 1;
+                }
+            }
+            return longer <= symbols.length;
         }
 
         /** Puts a rule's row in the place of its symbol; the symbols behind it are numbered anew. */
@@ -540,7 +536,7 @@ public final class PairGrammars {
         }
 
         boolean isRule(int symbol) {
-            return symbol >= LETTERS && hasRule(symbol - LETTERS);
+            return symbol >= LETTERS && symbol - LETTERS < rules;
         }
 
         boolean hasPlace(int place) {

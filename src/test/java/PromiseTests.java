@@ -150,6 +150,10 @@ public final class PromiseTests {
         refused("tell() of an empty pad", x, PairGrammars::tell, BAD_TEXT);
         PairGrammars longest = told(doubled(9999));
         due("the longest word", longest.count(0), 9999);
+        String longestRule = doubled(9999).replaceFirst(";([^;=]*)$", ";N=$1;");
+        PairGrammars byRule = told(longestRule + "N");
+        due("the longest rule", byRule.ofRule(13, 1), 9999);
+        due("a word of the longest rule", byRule.count(0), 9999);
         PairGrammars y = told("abc");
         put(y, doubled(10000));
         refused("tell() of a word that is too long", y, PairGrammars::tell, TOO_MANY);
@@ -226,7 +230,8 @@ public final class PromiseTests {
 
     private static void promise4() {
         PairGrammars x = told("A=aa;B=AA;C=ABc;ABC");
-        due("unroll(0)", x.unroll(0), 4);
+        x.fault();
+        due("unroll(0) behind fault()", x.unroll(0), 4);
         grammarIs("unroll(0)", x, "A=aaaa;B=aaAc;aaAB");
         due("count(7)", x.count(7), 2);
         due("unroll(1)", x.unroll(1), 1);
@@ -242,12 +247,14 @@ public final class PromiseTests {
         due("count(1)", full.count(1), 80);
         refused("unroll(0) to 81 symbols", told("A=ab;" + times("A", 40) + "a"), y -> y.unroll(0), TOO_MANY);
         refused("unroll(0) to 81 symbols of a rule", told("A=ab;B=" + times("A", 40) + "a;B"), y -> y.unroll(0), TOO_MANY);
+        refused("unroll(1) to 81 symbols of a rule", told("A=a;B=ab;C=" + times("B", 40) + "a;C"), y -> y.unroll(1), TOO_MANY);
         due("unroll(0) to 80 symbols of a rule", told("A=ab;B=" + times("A", 40) + ";B").unroll(0), 40);
     }
 
     private static void promise5() {
         PairGrammars x = told("A=ab;B=AA;C=Bc;AA");
-        due("prune()", x.prune(), 2);
+        x.fault();
+        due("prune() behind fault()", x.prune(), 2);
         grammarIs("prune()", x, "A=ab;AA");
         due("prune() of what is used twice", x.prune(), 0);
         due("count(7)", x.count(7), 3);
@@ -682,6 +689,10 @@ public final class PromiseTests {
     private static void undone(String name, PairGrammars x, Call change) {
         String before = grammar(x);
         int kept = x.count(7);
+        // What was only tried must not be what the change begins with.
+        x.fault();
+        x.couldBe();
+        x.fault();
         due(name + " answers no error", change.on(x) >= 0 ? 1 : 0, 1);
         due("count(7) behind " + name, x.count(7), kept + 1);
         due("undo() of " + name, x.undo(), kept);
@@ -753,6 +764,39 @@ public final class PromiseTests {
         grammarIs("undo()", x, "A=ab;B=AA;BB");
     }
 
+    /** Rules as deep as they can be: nineteen told by a text, seven folded. */
+    private static void deepest() {
+        StringBuilder chain = new StringBuilder("A=h;");
+        for (char rule = 'B'; rule < 'T'; rule++) {
+            chain.append(rule).append('=').append((char) (rule - 1)).append(';');
+        }
+        PairGrammars x = told(chain + "SS");
+        for (int letter = 6; letter >= 0; letter--) {
+            x.insert(1, letter);
+        }
+        for (int letter = 0; letter < 7; letter++) {
+            x.insert(x.count(0), letter);
+        }
+        due("fold(26)", x.fold(26), 7);
+        due("symbol(NONE, 1), Z", x.symbol(NONE, 1), 33);
+        due("count(1)", x.count(1), 2);
+        due("count(4)", x.count(4), 26);
+        due("ofRule(25, 3)", x.ofRule(25, 3), 26);
+        due("opens(0)", x.opens(0), 26);
+        due("the word", word(x), "habcdefghabcdefg");
+        int size = x.count(3);
+        due("ratio()", x.ratio(), Double.doubleToLongBits((double) size / 16.0));
+        due("share(7)", x.share(7), Float.floatToIntBits(2.0f / 16.0f));
+        x.save(0);
+        due("edit(0, 7)", x.edit(0, 7), 7);
+        due("count(1) behind edit(0, 7)", x.count(1), 9);
+        due("unlike(0)", x.unlike(0), NONE);
+        due("delete(8)", x.delete(8), 7);
+        due("unlike(0)", x.unlike(0), 8);
+        due("prune()", x.prune(), 26);
+        due("the word", word(x), "habcdefgabcdefg");
+    }
+
     private static void constants() {
         due("NO_SUCH", PairGrammars.NO_SUCH, NO_SUCH);
         due("BAD_VALUE", PairGrammars.BAD_VALUE, BAD_VALUE);
@@ -769,7 +813,7 @@ public final class PromiseTests {
             PromiseTests::promise13, PromiseTests::promise14, PromiseTests::promise15, PromiseTests::promise16,
             PromiseTests::promise17, PromiseTests::promise18, PromiseTests::promise19, PromiseTests::promise20,
             PromiseTests::promise21, PromiseTests::promise22, PromiseTests::promise23, PromiseTests::promise24,
-            PromiseTests::promise25, PromiseTests::promise26};
+            PromiseTests::promise25, PromiseTests::promise26, PromiseTests::deepest};
         for (promise = 0; promise < promises.length; promise++) {
             promises[promise].run();
         }
