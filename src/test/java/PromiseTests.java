@@ -1,126 +1,5 @@
 /** For each promise of the document: ordinary inputs, the edges that it names, and wrong inputs. */
-public final class PromiseTests {
-    private static final int NO_SUCH = -1, BAD_VALUE = -2, BAD_TEXT = -3, TOO_MANY = -4, NOT_POSSIBLE = -5, NONE = -6;
-
-    private static int promise = 0;
-    private static int passed = 0;
-    private static int failed = 0;
-
-    private static void due(String call, long got, long want) {
-        if (got == want) {
-            passed++;
-        } else {
-            failed++;
-            System.out.println("promise " + promise + ": " + call + " answered " + got + ", due is " + want);
-        }
-    }
-
-    private static void due(String call, String got, String want) {
-        if (got.equals(want)) {
-            passed++;
-        } else {
-            failed++;
-            System.out.println("promise " + promise + ": " + call + " is " + got + ", due is " + want);
-        }
-    }
-
-    private interface Call {
-        long on(PairGrammars x);
-    }
-
-    /** A call that fails: it answers the code, and nothing is different behind it. */
-    private static void refused(String name, PairGrammars x, Call call, long want) {
-        String before = everything(x);
-        due(name, call.on(x), want);
-        due(name + ", all that there is then", everything(x), before);
-    }
-
-    // ---- telling what there is
-
-    private static long packed(String text) {
-        long number = 0;
-        for (int i = 0; i < text.length(); i++) {
-            number = number << 8 | text.charAt(i);
-        }
-        return number;
-    }
-
-    private static void put(PairGrammars x, String text) {
-        for (int i = 0; i < text.length(); i += 8) {
-            x.put(packed(text.substring(i, Math.min(i + 8, text.length()))));
-        }
-    }
-
-    private static PairGrammars told(String text) {
-        PairGrammars x = new PairGrammars();
-        put(x, text);
-        int letters = x.tell();
-        if (letters < 0) {
-            due("tell() of " + text, letters, 0);
-        }
-        return x;
-    }
-
-    private static String row(PairGrammars x, int row) {
-        StringBuilder text = new StringBuilder();
-        for (int place = 0; x.symbol(row, place) >= 0; place++) {
-            int symbol = x.symbol(row, place);
-            text.append((char) (symbol < 8 ? 'a' + symbol : 'A' + symbol - 8));
-        }
-        return text.toString();
-    }
-
-    /** The grammar as a text. */
-    private static String grammar(PairGrammars x) {
-        StringBuilder text = new StringBuilder();
-        for (int rule = 0; rule < x.count(2); rule++) {
-            text.append((char) ('A' + rule)).append('=').append(row(x, rule)).append(';');
-        }
-        return text.append(row(x, NONE)).toString();
-    }
-
-    private static String word(PairGrammars x) {
-        StringBuilder word = new StringBuilder();
-        for (int place = 0; place < x.count(0); place++) {
-            word.append((char) ('a' + x.letter(place)));
-        }
-        return word.toString();
-    }
-
-    private static String everything(PairGrammars x) {
-        StringBuilder all = new StringBuilder(grammar(x));
-        for (int what = 0; what < 8; what++) {
-            all.append(' ').append(x.count(what));
-        }
-        return all.append(' ').append(x.fault()).append(' ').append(x.unlike(0)).append(' ').append(x.unlike(1))
-            .append(' ').append(x.mark()).toString();
-    }
-
-    private static void grammarIs(String call, PairGrammars x, String want) {
-        due("the grammar behind " + call, grammar(x), want);
-    }
-
-    private static String times(String text, int times) {
-        return text.repeat(times);
-    }
-
-    /** The text of a word of 2 to 8191 letters, all a, told by rules that double. */
-    private static String doubled(int letters) {
-        StringBuilder text = new StringBuilder("A=aa;");
-        for (int rule = 1; letters >> rule > 1; rule++) {
-            char before = (char) ('A' + rule - 1);
-            text.append((char) (before + 1)).append('=').append(before).append(before).append(';');
-        }
-        for (int bit = 13; bit >= 0; bit--) {
-            if ((letters >> bit & 1) == 1) {
-                text.append(bit == 0 ? 'a' : (char) ('A' + bit - 1));
-            }
-        }
-        return text.toString();
-    }
-
-    // ---- the promises
-
+public final class PromiseTests extends Checks {
     private static void promise1() {
         PairGrammars x = new PairGrammars();
         for (int what = 0; what < 8; what++) {
@@ -202,20 +81,6 @@ public final class PromiseTests {
         promise3ManyRules();
     }
 
-    private static PairGrammars manyRules() {
-        StringBuilder text = new StringBuilder();
-        for (char rule = 'A'; rule < 'Q'; rule++) {
-            text.append(rule).append("=a;");
-        }
-        PairGrammars x = told(text + "ababcdcdefefghgh");
-        for (String pairs : new String[] {"acac", "adad", "aeae", "afaf", "agag", "ahah", "bgbg"}) {
-            for (int i = 0; i < 4; i++) {
-                x.insert(x.count(0), pairs.charAt(i) - 'a');
-            }
-        }
-        return x;
-    }
-
     private static void promise3ManyRules() {
         PairGrammars x = manyRules();
         due("fold(26) up to 26 rules", x.fold(26), 10);
@@ -270,15 +135,6 @@ public final class PromiseTests {
         due("symbol(NONE, 0)", second.symbol(NONE, 0), 8);
         due("prune() without room", filled("A=ab;B=cd;AB", 80).prune(), 0);
         due("prune() of a new object", new PairGrammars().prune(), 0);
-    }
-
-    /** A grammar with so many symbols in the main row, made more by letters at its end. */
-    private static PairGrammars filled(String text, int symbols) {
-        PairGrammars x = told(text);
-        while (x.count(1) < symbols) {
-            x.insert(x.count(0), 7);
-        }
-        return x;
     }
 
     private static void promise6() {
@@ -814,12 +670,10 @@ public final class PromiseTests {
             PromiseTests::promise17, PromiseTests::promise18, PromiseTests::promise19, PromiseTests::promise20,
             PromiseTests::promise21, PromiseTests::promise22, PromiseTests::promise23, PromiseTests::promise24,
             PromiseTests::promise25, PromiseTests::promise26, PromiseTests::deepest};
-        for (promise = 0; promise < promises.length; promise++) {
+        for (int promise = 0; promise < promises.length; promise++) {
+            about("promise " + promise);
             promises[promise].run();
         }
-        System.out.println("promises: " + passed + " answers as due, " + failed + " not");
-        if (failed != 0) {
-            System.exit(1);
-        }
+        close("promises");
     }
 }
