@@ -306,6 +306,7 @@ public final class BoundaryTests extends Checks {
             due("best(2) of one symbol", told("A=abab;A").best(2), NONE);
             due("best(2) of two symbols", told("A=abab;AA").best(2), 1);
             due("pair(0, 1) of a rule's row", told("A=abab;AA").pair(0, 1), 0);
+            lastSymbolHasNoPair();
         });
         sentence("How often it comes is counted from the left, without overlapping (aaa has the pair aa once).", () -> {
             for (int letters = 0; letters <= 80; letters++) {
@@ -346,6 +347,26 @@ public final class BoundaryTests extends Checks {
             only.unroll(0);
             grammarIs("unroll(0), the only one", only, "ab");
         });
+    }
+
+    /** Rules of high numbers: what stands behind the last symbol must not be taken for one of them, nor what stood there. */
+    private static void lastSymbolHasNoPair() {
+        PairGrammars x = told(nineteenRules() + "SabS");
+        x.insert(4, 0);
+        x.insert(5, 1);
+        x.fold(2);
+        x.insert(3, 0);
+        x.insert(7, 1);
+        due("the main row is UaUb", row(x, NONE), "UaUb");
+        due("best(2) of UaUb", x.best(2), 1);
+        refused("fold(1) of UaUb", x, y -> y.fold(1), NOT_POSSIBLE);
+        x.insert(0, 0);
+        due("best(2) of aUaUb", x.best(2), 2);
+        x.delete(0);
+        x.delete(3);
+        due("the main row is UUb", row(x, NONE), "UUb");
+        due("best(2) of UUb", x.best(2), 1);
+        refused("fold(1) of UUb", x, y -> y.fold(1), NOT_POSSIBLE);
     }
 
     private static void texts() {
