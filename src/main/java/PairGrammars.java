@@ -1060,17 +1060,20 @@ public final class PairGrammars {
         }
 
         void record(Grammar grammar) {
-            states[next].copy(grammar);
-            next = (next + 1) % MOST_CHANGES;
-            kept = Math.min(kept + 1, MOST_CHANGES);
+            if (next >= 0 && next < states.length) {
+                states[next].copy(grammar);
+                next = (next + 1) % MOST_CHANGES;
+                kept = Math.min(kept + 1, MOST_CHANGES);
+            }
         }
 
         /** Makes a grammar what was recorded last, which is kept no more. */
         void takeBack(Grammar grammar) {
-            if (kept > 0) {
-                next = (next + MOST_CHANGES - 1) % MOST_CHANGES;
+            int last = (next + MOST_CHANGES - 1) % MOST_CHANGES;
+            if (kept > 0 && last >= 0 && last < states.length) {
+                next = last;
                 kept--;
-                grammar.copy(states[next]);
+                grammar.copy(states[last]);
             }
         }
     }

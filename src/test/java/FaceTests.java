@@ -80,6 +80,32 @@ public final class FaceTests {
         }
     }
 
+    /** What LANGUAGE.md says of how large a class and a method may be, as far as reflection tells it. */
+    private static void sizes(Class<?> one) {
+        int fields = 0;
+        for (Field field : one.getDeclaredFields()) {
+            fields += Modifier.isStatic(field.getModifiers()) ? 0 : 1;
+        }
+        due(one + " has at most some twenty fields", fields <= 20, true);
+        for (Method method : one.getDeclaredMethods()) {
+            due(one + "." + method.getName() + " takes at most seven parameters", method.getParameterCount() <= 7, true);
+        }
+        for (Class<?> inner : one.getDeclaredClasses()) {
+            sizes(inner);
+        }
+    }
+
+    /** A method's body ends at the brace that stands as far right as its header. */
+    private static void methodLengths(String code) {
+        Matcher method = Pattern.compile("(?m)^( +)[\\w\\[\\] ]+\\([^()\n]*\\) \\{\n((?:.*\n)*?)\\1\\}\n").matcher(code);
+        int methods = 0;
+        while (method.find()) {
+            due("short: " + method.group().split("\n")[0].trim(), method.group(2).split("\n").length <= 60, true);
+            methods++;
+        }
+        due("methods are found in the source", methods > METHODS.length, true);
+    }
+
     private static void source(Path file) throws IOException {
         String code = Files.readString(file).replaceAll("(?s)/\\*.*?\\*/", "").replaceAll("//[^\n]*", "");
         for (String unwanted : UNWANTED) {
@@ -91,10 +117,12 @@ public final class FaceTests {
             due("an import", imports.group(), "import java.util.Arrays;");
         }
         due("a package line", code.contains("package "), false);
+        methodLengths(code);
     }
 
     public static void main(String[] args) throws IOException {
         face();
+        sizes(PairGrammars.class);
         source(Path.of(args.length > 0 ? args[0] : "src/main/java/PairGrammars.java"));
         System.out.println("the face and the source: " + wrong + " wrong");
         if (wrong != 0) {
